@@ -6,6 +6,7 @@ public final class ChargeTest {
         }
         lastsOverSeveralCalls();
         isSetAnew();
+        allFramesAreEmptyBehindTheCut();
         isGoneBehindTheCut();
         mostCharge();
         refusals();
@@ -67,6 +68,22 @@ public final class ChargeTest {
         Check.powerGoes("clean(1)", () -> desk.clean(1));
         Check.no("torn(3)", desk.torn(3));
         Check.same("count(2)", desk.count(2), 24);
+    }
+
+    private static void allFramesAreEmptyBehindTheCut() {
+        BufferDesk desk = Desks.fullAndDirty();
+        desk.pin(2);
+        desk.charge(0);
+        Check.powerGoes("clean(12)", () -> desk.clean(12));
+        for (int frame = 0; frame < 12; frame++) {
+            Check.same("look(" + frame + ", 0)", desk.look(frame, 0), -1);
+            Check.same("get(" + frame + ", 100)", desk.get(frame, 100), -1);
+            Check.no("unpin(" + frame + ")", desk.unpin(frame));
+            Check.no("set(" + frame + ", 100, 1, 0)", desk.set(frame, 100, 1, 0));
+        }
+        Check.same("clean(12)", desk.clean(12), 0);
+        Check.same("sweep()", desk.sweep(), 0);
+        Check.same("count(2)", desk.count(2), 0);
     }
 
     private static void isGoneBehindTheCut() {
