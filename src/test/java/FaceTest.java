@@ -54,7 +54,8 @@ public final class FaceTest {
                 shownNames.add(method.getName());
             }
         }
-        Check.same("the public methods", String.join("\n", shown), String.join("\n", new TreeSet<>(Arrays.asList(FACE))));
+        TreeSet<String> due = new TreeSet<>(Arrays.asList(FACE));
+        Check.same("the public methods", String.join("\n", shown), String.join("\n", due));
         hiddenNames.retainAll(shownNames);
         Check.same("private methods with a public one's name", hiddenNames.toString(), "[]");
     }
