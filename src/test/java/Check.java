@@ -55,6 +55,10 @@ final class Check {
         refused(what, UnsupportedOperationException.class, call);
     }
 
+    static int faults() {
+        return wrong;
+    }
+
     static void fault(String text) {
         wrong++;
         System.out.println(text);

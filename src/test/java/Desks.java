@@ -1,5 +1,8 @@
 /** Objects brought into a state that several tests start from. */
 final class Desks {
+    /** Neither a page, nor a frame, nor a byte, nor a what, nor a charge. */
+    static final int[] FAR = {Integer.MIN_VALUE, -1000000, -2, -1, 1000, 65536, Integer.MAX_VALUE};
+
     private Desks() {}
 
     /** Page p is in frame p, with one pin and use 1, clean; the hand is at 0. */
@@ -19,6 +22,25 @@ final class Desks {
             desk.unpin(frame);
         }
         return desk;
+    }
+
+    /** As full, but the hand points at another frame, and the frame before that one has page 20. */
+    static BufferDesk fullWithHandAt(int hand) {
+        BufferDesk desk = full();
+        int before = (hand + 11) % 12;
+        desk.unpin(before);
+        desk.pin(20);
+        return desk;
+    }
+
+    /** For a frame with one pin and use 1: it has no pins and this use (1 .. 3) then. */
+    static void leaveWithUse(BufferDesk desk, int frame, int use) {
+        int page = desk.look(frame, 0);
+        for (int more = 1; more < use; more++) {
+            desk.pin(page);
+            desk.unpin(frame);
+        }
+        desk.unpin(frame);
     }
 
     /** Only for an object with nothing dirty and no other charge: the page ends torn, the pool empty. */
